@@ -39,7 +39,7 @@ public final class PaidToWhisper {
         if (code < 1 || code > MOST_CODE) {
             return OUTSIDE;
         }
-        return page.isFull() ? FULL : page.add(code);
+        return page.add(code);
     }
 
     public int blank() {
@@ -86,7 +86,7 @@ public final class PaidToWhisper {
         if (!isPlace(place)) {
             return UNKNOWN;
         }
-        return here.listeners >= MOST_LISTENERS ? FULL : here.settle(kind, place);
+        return here.settle(kind, place);
     }
 
     public int about(int listener, int what) {
@@ -370,15 +370,12 @@ public final class PaidToWhisper {
             length = 0;
         }
 
-        boolean isFull() {
-            return length >= MOST_LETTERS;
-        }
-
         int add(int code) {
-            if (length < MOST_LETTERS) {
-                letters[length] = code;
-                length++;
+            if (length >= MOST_LETTERS) {
+                return FULL;
             }
+            letters[length] = code;
+            length++;
             return length;
         }
 
