@@ -273,10 +273,10 @@ public final class PaidToWhisper {
 
     public long digest() {
         long h = foldListeners(1009L);
+        // "With a TOWN" opens all from NOISE to ASK: without one each of these is a refusal.
         if (hasTown()) {
-            h = foldPlaces(h);
+            h = foldQuestions(foldPlaces(h));
         }
-        h = foldQuestions(h);
         // The letters themselves, not how many: that is in count(8).
         for (int at = 0; at < page.length; at++) {
             h = fold(h, page.letters[at]);
@@ -312,7 +312,7 @@ public final class PaidToWhisper {
     private long foldQuestions(long start) {
         long h = fold(fold(start, least(0)), least(1));
         // One search serves all four parts: cover() is the dearest question.
-        int plan = hasTown() ? Inquiry.coverPlan(here, here.everyone()) : STATE;
+        int plan = Inquiry.coverPlan(here, here.everyone());
         h = fold(h, Inquiry.partOfPlan(plan, 0));
         for (int what = 10; what <= 12; what++) {
             h = fold(h, Inquiry.partOfPlan(plan, what));

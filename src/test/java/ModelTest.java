@@ -411,21 +411,25 @@ public final class ModelTest {
                 n.add(hush(l, 2, 9, 0));
                 n.add(hush(l, 2, 9, 1));
             }
-            for (int p = 0; w != null && p < 6; p++) {
-                n.add(noise(p));
-                n.add(would(p, 5));
-            }
-            n.add(least(0));
-            n.add(least(1));
-            for (int what : new int[] {0, 10, 11, 12}) n.add(cover((1 << people) - 1, what));
-            n.add(where(0));
-            n.add(where(1));
-            n.add(ask());
+            if (w != null) digestTown(n, (1 << people) - 1);
             for (char c : page.toString().toCharArray()) n.add((int) c);
             for (int what = 0; what < 10; what++) n.add(count(what));
             long h = 1009;
             for (int k : n) h = h * 31 + k;
             return h;
+        }
+
+        void digestTown(List<Integer> n, int all) {
+            for (int p = 0; p < 6; p++) {
+                n.add(noise(p));
+                n.add(would(p, 5));
+            }
+            n.add(least(0));
+            n.add(least(1));
+            for (int what : new int[] {0, 10, 11, 12}) n.add(cover(all, what));
+            n.add(where(0));
+            n.add(where(1));
+            n.add(ask());
         }
     }
 

@@ -659,9 +659,20 @@ public final class PromisesTest {
 
     private static void digest() {
         PaidToWhisper x = new PaidToWhisper();
-        due("28 no town", x.digest(), folded(x, ""));
+        due("28 no town", x.digest(), 1009L * power(31, 10));
+        due("28 no town again", x.digest(), folded(x, ""));
         write(x, "x;");
+        // 'x' is 120, ';' is 59; then count(): 2 letters of THE PAGE, all else 0.
+        due("28 letters, no town", x.digest(), ((1009L * 31 + 120) * 31 + 59) * power(31, 10) + 2 * 31);
         due("28 letters", x.digest(), folded(x, "x;"));
+        write(x, "000000;11");
+        due("28 no town could be read", x.town(), STATE);
+        due("28 a town that was refused", x.digest(), folded(x, "x;000000;11"));
+        PaidToWhisper z = town("000000;11");
+        due("28 town, no listeners", z.digest(), folded(z, ""));
+        write(z, "x");
+        z.town();
+        due("28 town kept by a refusal", z.digest(), folded(z, "x"));
         PaidToWhisper y = town("102030;82", CLERK, 1, BOY, 2, LISTENER, 3, DEAF, 2, GOOSE, 2);
         due("28 town", y.digest(), folded(y, ""));
         y.cry(1, 2);
@@ -669,6 +680,14 @@ public final class PromisesTest {
         write(y, "01a");
         due("28 later", y.digest(), folded(y, "01a"));
         due("28 twice the same", y.digest(), y.digest());
+    }
+
+    private static long power(long base, int times) {
+        long product = 1;
+        for (int i = 0; i < times; i++) {
+            product *= base;
+        }
+        return product;
     }
 
     private static long folded(PaidToWhisper x, String letters) {
@@ -681,21 +700,28 @@ public final class PromisesTest {
             h = 31 * h + x.hush(i, 2, 9, 0);
             h = 31 * h + x.hush(i, 2, 9, 1);
         }
-        for (int place = 0; place < 6 && x.count(9) > 0; place++) {
-            h = 31 * h + x.noise(place);
-            h = 31 * h + x.would(place, 5);
-        }
-        int all = (1 << listeners) - 1;
-        int[] told = {x.least(0), x.least(1), x.cover(all, 0), x.cover(all, 10), x.cover(all, 11),
-            x.cover(all, 12), x.where(0), x.where(1), x.ask()};
-        for (int number : told) {
-            h = 31 * h + number;
+        if (x.count(9) > 0) {
+            h = foldedTown(h, x, (1 << listeners) - 1);
         }
         for (int i = 0; i < letters.length(); i++) {
             h = 31 * h + letters.charAt(i);
         }
         for (int what = 0; what <= 9; what++) {
             h = 31 * h + x.count(what);
+        }
+        return h;
+    }
+
+    private static long foldedTown(long start, PaidToWhisper x, int all) {
+        long h = start;
+        for (int place = 0; place < 6; place++) {
+            h = 31 * h + x.noise(place);
+            h = 31 * h + x.would(place, 5);
+        }
+        int[] told = {x.least(0), x.least(1), x.cover(all, 0), x.cover(all, 10), x.cover(all, 11),
+            x.cover(all, 12), x.where(0), x.where(1), x.ask()};
+        for (int number : told) {
+            h = 31 * h + number;
         }
         return h;
     }
