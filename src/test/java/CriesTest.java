@@ -172,6 +172,11 @@ final class CriesTest extends Checks {
             town("000300;91", BOY, 0, BOY, 1, BOY, 2, BOY, 3, BOY, 4, LISTENER, 5).cry(0, 1), 3);
     }
 
+    static void promise12_twoBoysAtOnce() {
+        PaidToWhisper x = town("000000;91", BOY, 1, BOY, 3, LISTENER, 0, LISTENER, 4);
+        due("each has one who hears him alone", x.cry(2, 3), 4);
+    }
+
     static void promise12_onlyTheFirstTimeOfADecree() {
         PaidToWhisper x = cried(town("000000;91", BOY, 0), 0, 1);
         x.listener(LISTENER, 1);

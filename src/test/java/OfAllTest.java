@@ -329,6 +329,18 @@ final class OfAllTest extends Checks {
             1, 8, 1, 1, 1, 1, 1, 1, 1, 1));
     }
 
+    static void promise28_hushAtPlace2AsLoudAs9() {
+        // From PLACE 2 as 9 it comes to both as 0; from a PLACE nearer or louder one of them hears it.
+        due("neither hears it", town("500003;91", LISTENER, 0, LISTENER, 5).digest(), wrapped(
+            0, 0, 0, 0, 1, 0, 0, 0, 0, 5, 0, 0, 1, 0, 0, 0,
+            5, 0, 0, 0, 0, 0, 0, 0, 0, 0, 3, 2, 0, 0, 2, 0, 3, NONE, 54, 1, 1,
+            2, 9, 1, 0, 0, 1, 1, 0, 0, 1));
+        due("both hear it", town("400002;91", LISTENER, 0, LISTENER, 5).digest(), wrapped(
+            0, 0, 0, 0, 1, 0, NONE, NONE, 0, 5, 0, 0, 1, 0, NONE, NONE,
+            4, 1, 0, 0, 0, 0, 0, 0, 0, 2, 2, 2, 0, 0, 1, 2, NONE, NONE, 54, 1, 1,
+            2, 9, 1, 0, 0, 1, 1, 0, 0, 1));
+    }
+
     static void promise28_noVoice() {
         PaidToWhisper x = cried(town("000000;11"), 0, 1);
         due("least() is NONE", x.digest(), wrapped(

@@ -126,6 +126,22 @@ final class ToldTest extends Checks {
         whereIs("does not", x, 29, 11);
     }
 
+    static void promise22_toldOfSeveral() {
+        // Both know it by 19, 27 to 29, 37 to 39 and 49.
+        PaidToWhisper both = town("000000;11", LISTENER, 0, LISTENER, 5);
+        both.tell(0, true);
+        both.tell(1, true);
+        whereIs("both know", both, 8, 19);
+        PaidToWhisper neither = town("000000;11", LISTENER, 0, LISTENER, 5);
+        neither.tell(0, false);
+        neither.tell(1, false);
+        whereIs("neither does", neither, 12, 11);
+        PaidToWhisper one = town("000000;11", LISTENER, 0, LISTENER, 5);
+        one.tell(1, true);
+        one.tell(0, false);
+        whereIs("one of them does", one, 17, 35);
+    }
+
     static void promise22_gooseNeverKnows() {
         PaidToWhisper x = town("000000;91", GOOSE, 0);
         x.tell(0, false);
@@ -199,6 +215,9 @@ final class ToldTest extends Checks {
         due("too many know", town("000000;91", LISTENER, 2, LISTENER, 0).ask(), 1);
         // In noise of 8 he knows it by 1, so 53 are left at worst.
         due("too few know", town("000008;91", LISTENER, 5, LISTENER, 2).ask(), 1);
+        // One knows it by 30, one does not by 30: they are alike.
+        due("30 who know, 30 who do not", town("001200;91", LISTENER, 2, LISTENER, 3).ask(), 0);
+        due("30 who do not, 30 who know", town("001200;91", LISTENER, 3, LISTENER, 2).ask(), 0);
     }
 
     static void promise23_ofLikeOnesTheLeast() {
@@ -225,6 +244,10 @@ final class ToldTest extends Checks {
     static void promise23_changesNothing() {
         unchanged("ask()", Checks::busy, x -> x.ask(), busy().ask());
         unchanged("with eight told", Checks::full, x -> x.ask(), full().ask());
+        PaidToWhisper x = town("000000;91", LISTENER, 0, LISTENER, 2);
+        for (int i = 0; i < 3; i++) {
+            due("again and again", x.ask(), 0);
+        }
     }
 
     static void promise23_noTown() {
